@@ -75,6 +75,8 @@ public final class AccountTest {
         Check.same("unluckiest() with two tickets of z apart", 2, bureau.unluckiest());
         bureau.set(0, 9);
         Check.same("unluckiest() without lost hours", WaitingBureau.NONE, bureau.unluckiest());
+        WaitingBureau one = Check.loaded("bureau 0 0 1 2 7 0;office a 1 1 6;person x;person y;join y a;pass 1;");
+        Check.same("unluckiest() of one hour", 1, one.unluckiest());
         WaitingBureau once = Check.loaded("bureau 0 0 1 2 7 0;office a 1 3 6;office b 1 3 6;office c 1 4 6;"
                 + "person x;person y;join x a;join x b;join y c;pass 4;");
         Check.same("unluckiest() when hours count once", 1, once.unluckiest());

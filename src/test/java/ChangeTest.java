@@ -20,6 +20,9 @@ public final class ChangeTest {
         set();
         undo();
         undoOfEveryChange();
+        undoOfAnOffer();
+        undoOfAWitness();
+        usedRowsBeginAnew();
         save();
         restore();
         Check.end("ChangeTest");
@@ -75,7 +78,10 @@ public final class ChangeTest {
         Check.same("its ENDED", 3, bureau.ticket(2, 3));
         Check.badState("leave(2) again", () -> bureau.leave(2));
         Check.badState("leave(0) of a served one", () -> bureau.leave(0));
+        bureau.pass(1);
         Check.same("join(2, 0) again", 3, bureau.join(2, 0));
+        bureau.pass(1);
+        Check.same("leave(3) one hour later", 1, bureau.leave(3));
         Check.outOfBounds("leave(4)", () -> bureau.leave(4));
         Check.outOfBounds("leave(-1)", () -> bureau.leave(-1));
     }
@@ -273,6 +279,13 @@ public final class ChangeTest {
         for (int place = 0; place < 5; place++) {
             Check.same("queued(2, " + place + ")", second[place], bureau.queued(2, place));
         }
+        WaitingBureau early = Check.loaded("bureau 1 1 2 5 3 0;office a 1 6 6;office b 1 6 6;person p;person q;person r;"
+                + "join p a;pass 1;join q b;pass 1;join r a;");
+        early.merge(0, 1);
+        int[] third = {0, 1, 2};
+        for (int place = 0; place < 3; place++) {
+            Check.same("queued(1, " + place + ")", third[place], early.queued(1, place));
+        }
         WaitingBureau twins = Check.loaded("bureau 1 1 2 5 3 0;office a 1 6 6;office b 1 6 6;person p;person q;"
                 + "join p a;join q a;join q b;join p b;");
         Check.same("merge of twins", 2, twins.merge(1, 0));
@@ -416,10 +429,15 @@ public final class ChangeTest {
         return all.toString();
     }
 
-    /** The example has a change of every kind that can be done. */
+    /** A change of every kind can be done with the example: u was served and has no claim, c is closed. */
     private static WaitingBureau manifold() {
-        return Check.loaded("bureau 0 1 1 4 3 4;office a 1 2 6;office b 1 6 6;office c 1 6 6;person x;person y;person z;"
-                + "join x a;join y a;join z a;join z b;pass 5;claim x;claim y;witness x y;");
+        WaitingBureau bureau = Check.loaded("bureau 0 1 1 4 3 4;office a 1 2 6;office b 1 6 6;office c 1 1 6;"
+                + "person x;person y;person z;person u;join x a;join y a;join z a;join z b;join u c;pass 5;"
+                + "claim x;claim y;witness x y;");
+        bureau.merge(2, 1);
+        bureau.save(0);
+        bureau.restore(0);
+        return bureau;
     }
 
     private static void doChange(WaitingBureau bureau, int kind) {
@@ -427,13 +445,13 @@ public final class ChangeTest {
             case 0: bureau.join(1, 1); break;
             case 1: bureau.leave(2); break;
             case 2: bureau.pass(17); break;
-            case 3: bureau.pass(1); bureau.claim(2); break;
-            case 4: bureau.pass(16); bureau.witness(0, 1); break;
+            case 3: bureau.claim(4); break;
+            case 4: bureau.witness(0, 2); break;
             case 5: bureau.give(1, 2, 2); break;
             case 6: bureau.offer(1, 3); break;
             case 7: bureau.deposit(9); break;
             case 8: bureau.merge(0, 1); break;
-            case 9: bureau.merge(1, 0); bureau.reopen(1); break;
+            case 9: bureau.reopen(2); break;
             case 10: Check.put(bureau, "new"); bureau.addPerson(); break;
             default: bureau.set(0, 3); break;
         }
@@ -447,16 +465,95 @@ public final class ChangeTest {
             doChange(bureau, kind);
             String after = reports(bureau);
             Check.same("whether change " + kind + " changes anything", false, before.equals(after));
-            int changes = bureau.count(12);
-            for (int left = changes - 1; left >= 0; left--) {
-                Check.same("undo() of change " + kind, left, bureau.undo());
-            }
+            Check.same("changes after change " + kind, 1, bureau.count(12));
+            Check.same("undo() of change " + kind, 0, bureau.undo());
             Check.same("state after undo() of change " + kind, before, reports(bureau));
             doChange(bureau, kind);
             Check.same("state after change " + kind + " again", after, reports(bureau));
             bureau.restore(1);
             Check.same("state after restore(1) of change " + kind, before, reports(bureau));
         }
+    }
+
+    private static void undoOfAnOffer() {
+        WaitingBureau bureau = rich();
+        bureau.set(4, 99);
+        bureau.offer(1, 2);
+        bureau.offer(0, 2);
+        String before = reports(bureau);
+        bureau.deposit(300);
+        bureau.offer(0, 1);
+        bureau.undo();
+        bureau.undo();
+        Check.same("state with offered tokens after undo()", before, reports(bureau));
+        Check.same("place of 0 after undo()", 0, bureau.token(0, 4));
+        Check.same("place of 5 after undo()", 3, bureau.token(5, 4));
+        bureau.undo();
+        Check.same("offered tokens after undo()", 2, bureau.count(9));
+    }
+
+    private static void undoOfAWitness() {
+        WaitingBureau bureau = Check.loaded("bureau 0 2 1 4 3 4;office a 2 2 6;person x;person y;"
+                + "join x a;join y a;pass 2;claim x;claim y;witness x y;");
+        Check.same("whyNot of one who was helped in the text", 7, bureau.whyNot(0, 1));
+        bureau.save(0);
+        bureau.pass(18);
+        Check.same("witness in the new week", 0, bureau.witness(0, 1));
+        Check.same("undo() of witness()", 1, bureau.undo());
+        Check.same("whyNot after undo() of witness()", 0, bureau.whyNot(0, 1));
+        Check.same("undo() of pass()", 0, bureau.undo());
+        Check.same("whyNot after undo() of pass()", 7, bureau.whyNot(0, 1));
+        bureau.pass(18);
+        bureau.restore(0);
+        Check.same("whyNot after restore(0)", 7, bureau.whyNot(0, 1));
+    }
+
+    /** What was in an object earlier is of no matter when it is loaded, and when persons and tickets are added. */
+    private static void usedRowsBeginAnew() {
+        String small = "bureau 0 1 1 4 3 6;office a 1 2 6;person x;";
+        String many = "bureau 0 1 1 4 3 10;office a 1 2 6;office b 1 1 6;person x;person y;person z;join y a;join x a;"
+                + "join z a;pass 4;join z b;join y b;join x b;pass 3;claim y;claim x;witness y x;";
+        WaitingBureau fresh = Check.loaded(small);
+        WaitingBureau used = Check.loaded(many);
+        used.witness(4, 2);
+        used.offer(0, 3);
+        used.offer(1, 2);
+        Check.same("offered tokens", 2, used.count(9));
+        used.tokensIn(1);
+        Check.put(used, small);
+        used.load();
+        Check.same("state after load()", reports(fresh), reports(used));
+        for (WaitingBureau bureau : new WaitingBureau[] {fresh, used}) {
+            addAndWait(bureau, 0);
+        }
+        Check.same("state after load() and changes", reports(fresh), reports(used));
+        WaitingBureau plain = Check.loaded(small);
+        addAndWait(plain, 1);
+        WaitingBureau undone = Check.loaded(small);
+        addAndWait(undone, 0);
+        Check.same("paid tokens", 2, undone.offer(1, 2));
+        for (int left = 7; left >= 0; left--) {
+            undone.undo();
+        }
+        Check.same("persons after undo()", 1, undone.count(1));
+        addAndWait(undone, 1);
+        Check.same("state after undo() and other changes", reports(plain), reports(undone));
+    }
+
+    /** Seven changes. */
+    private static void addAndWait(WaitingBureau bureau, int way) {
+        Check.put(bureau, "y");
+        bureau.addPerson();
+        bureau.join(way, 0);
+        bureau.join(1 - way, 0);
+        bureau.pass(4 + way);
+        bureau.claim(1 - way);
+        if (way == 0) {
+            bureau.witness(1, 0);
+        } else {
+            bureau.set(0, 1);
+        }
+        bureau.join(1, 0);
     }
 
     private static void save() {

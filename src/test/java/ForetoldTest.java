@@ -126,6 +126,7 @@ public final class ForetoldTest {
                 + "person y;person z;person u;");
         Check.same("longestIfMerged(0, 1) without tickets", 0, bureau.longestIfMerged(0, 1));
         bureau.join(0, 0);
+        Check.same("longestIfMerged(0, 1) of one ticket", 3, bureau.longestIfMerged(0, 1));
         bureau.join(1, 0);
         bureau.join(1, 1);
         bureau.join(2, 1);

@@ -98,6 +98,12 @@ public final class ReportTest {
         WaitingBureau bureau = example();
         int[][] due = {{0, 1, 0, 0, 0, 0, 0, 0, 1, 1}, {0, 2, 1, 3, 0, 0, 3, 3, 0, 0}, {0, 1, 1, 0, 0, 0, 0, 0, 0, 0}};
         persons("of the example", bureau, due);
+        WaitingBureau waiting = new WaitingBureau();
+        waiting.join(1, 0);
+        waiting.join(1, 1);
+        Check.same("waiting tickets of y", 2, waiting.person(1, 2));
+        waiting.leave(0);
+        Check.same("waiting tickets of y", 1, waiting.person(1, 2));
         bureau.give(1, 2, 1);
         bureau.offer(2, 1);
         bureau.offer(1, 2);

@@ -165,6 +165,8 @@ public final class TextTest {
         error(1, "", "office");
         error(1, "", "bureaux 1");
         error(1, "", "Bureau 1");
+        error(1, "", "zureau 1");
+        error(1, "", "bureaz 1");
         error(1, "bureau", "");
         error(1, "bureau ", "x");
         error(1, "bureau ", "; 1");
@@ -184,6 +186,7 @@ public final class TextTest {
         error(1, HEAD, "");
         error(1, HEAD, "person x;");
         error(1, HEAD, "officea 1 1 1;");
+        error(1, "bureau 9 3 9 20 99 99999 ", "office a 1 1 1;");
     }
 
     private static void officeErrors() {
@@ -199,6 +202,7 @@ public final class TextTest {
         error(2, HEAD + "office a 4 6 ", "0");
         error(2, HEAD + "office a 4 6 ", "21");
         error(1, HEAD + "office a 4 6 20 ", "20");
+        error(1, HEAD + "office a 4 6 20 ", "office b 1 1 1;");
         error(3, HEAD + OFFICE + "office ", "a 0");
         error(4, HEAD + OFFICE + "office b 1 1 1;person x;join x ", "c");
         StringBuilder six = new StringBuilder(HEAD);
@@ -216,6 +220,7 @@ public final class TextTest {
         error(1, HEAD + OFFICE + "person ", "1");
         error(1, HEAD + OFFICE + "person ", "witness;");
         error(1, HEAD + OFFICE + "person x ", "y");
+        error(1, HEAD + OFFICE + "person x ", "person y;");
         error(3, START + "person ", "x;");
         error(1, START, "office b 1 1 1;");
         error(1, START, "persons");
@@ -234,6 +239,8 @@ public final class TextTest {
         error(1, START, ";");
         error(1, START, "1");
         error(1, START, "witnes x x;");
+        error(1, START, "zoin x a;");
+        error(1, START, "jo");
         error(1, START + "pass 1;", "person y;");
         error(1, START + "pass 1;", "office b 1 1 1;");
         error(1, START + "join ", ";");
