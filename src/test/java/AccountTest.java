@@ -13,6 +13,7 @@ public final class AccountTest {
     }
 
     private static void debt() {
+        Check.promise(21);
         WaitingBureau bureau = Check.loaded(
                 "bureau 0 0 1 9 7 8;office a 1 4 6;person x;join x a;pass 4;");
         Check.same("debt() without tokens", 0, bureau.debt());
@@ -25,6 +26,7 @@ public final class AccountTest {
     }
 
     private static void meanWait() {
+        Check.promise(22);
         WaitingBureau bureau = Check.loaded(
                 "bureau 0 0 1 9 7 0;office a 1 2 6;office b 1 1 6;person x;person y;person z;join x a;join y a;join z a;");
         Check.same("meanWait() without any", 0.0, bureau.meanWait());
@@ -43,6 +45,7 @@ public final class AccountTest {
     }
 
     private static void repaid() {
+        Check.promise(23);
         WaitingBureau bureau = Check.loaded(
                 "bureau 1 0 1 2 7 0;office a 1 3 6;office b 1 4 6;person x;person y;join x a;join x b;join y a;");
         bureau.pass(2);
@@ -58,6 +61,7 @@ public final class AccountTest {
     }
 
     private static void unluckiest() {
+        Check.promise(24);
         WaitingBureau bureau = Check.loaded("bureau 0 0 1 2 7 0;office a 1 3 6;office b 1 4 6;person x;person y;person z;"
                 + "join y a;join y b;join z b;pass 2;");
         Check.same("unluckiest() without served ones", WaitingBureau.NONE, bureau.unluckiest());
@@ -83,6 +87,7 @@ public final class AccountTest {
     }
 
     private static void gap() {
+        Check.promise(25);
         WaitingBureau bureau = Check.loaded(
                 "bureau 0 0 1 9 7 8;office a 1 4 6;office b 1 5 6;person x;person y;join x a;join x b;join y b;");
         Check.same("gap() without tokens", 0, bureau.gap());

@@ -29,6 +29,7 @@ public final class ChangeTest {
     }
 
     private static void join() {
+        Check.promise(34);
         WaitingBureau bureau = Check.loaded("bureau 1 1 2 5 3 0;office a 1 6 2;office b 1 6 2;person x;person y;person z;");
         Check.same("join(1, 0)", 0, bureau.join(1, 0));
         bureau.pass(1);
@@ -48,6 +49,7 @@ public final class ChangeTest {
     }
 
     private static void joinAtTheLimits() {
+        Check.promise(34);
         WaitingBureau bureau = Check.loaded("bureau 1 1 2 5 3 0;office a 4 1 20;person x;person y;person z;");
         for (int ticket = 0; ticket < 60; ticket++) {
             Check.same("join", ticket, bureau.join(ticket % 3, 0));
@@ -66,6 +68,7 @@ public final class ChangeTest {
     }
 
     private static void leave() {
+        Check.promise(35);
         WaitingBureau bureau = new WaitingBureau();
         bureau.join(0, 0);
         bureau.join(1, 0);
@@ -87,6 +90,7 @@ public final class ChangeTest {
     }
 
     private static void pass() {
+        Check.promise(36);
         WaitingBureau bureau = Check.loaded(
                 "bureau 1 1 2 5 3 0;office a 2 3 6;office b 1 2 6;person x;person y;person z;");
         for (int person = 0; person < 3; person++) {
@@ -114,6 +118,7 @@ public final class ChangeTest {
 
     /** At 20 the tokens are made after serving and with the count of the new week, then they are settled. */
     private static void hourInItsOrder() {
+        Check.promise(36);
         WaitingBureau bureau = Check.loaded("bureau 0 0 1 2 3 0;office a 1 5 6;person x;person y;join x a;join y a;"
                 + "pass 19;claim x;claim y;");
         Check.same("tokens at 19", 4, bureau.count(8));
@@ -132,6 +137,7 @@ public final class ChangeTest {
     }
 
     private static void weeklyTokens() {
+        Check.promise(36);
         WaitingBureau bureau = Check.loaded("bureau 0 0 1 3 3 0;office a 1 4 6;office b 1 5 6;person x;"
                 + "pass 1;join x a;join x b;pass 4;");
         Check.same("claim(1) of hours 1 to 4", 3, bureau.claim(1));
@@ -157,6 +163,7 @@ public final class ChangeTest {
     }
 
     private static void give() {
+        Check.promise(39);
         WaitingBureau bureau = rich();
         Check.same("give(0, 1, 2)", 6, bureau.give(0, 1, 2));
         Check.same("owner of 4", 1, bureau.token(4, 0));
@@ -181,6 +188,7 @@ public final class ChangeTest {
     }
 
     private static void offer() {
+        Check.promise(40);
         WaitingBureau bureau = rich();
         Check.same("offer(0, 3) with a fund for two", 2, bureau.offer(0, 3));
         Check.same("state of 4", WaitingBureau.PAID, bureau.token(4, 3));
@@ -215,6 +223,7 @@ public final class ChangeTest {
     }
 
     private static void deposit() {
+        Check.promise(41);
         WaitingBureau bureau = rich();
         bureau.offer(0, 6);
         Check.same("deposit(4)", 9, bureau.deposit(4));
@@ -238,6 +247,7 @@ public final class ChangeTest {
     }
 
     private static void merge() {
+        Check.promise(42);
         WaitingBureau bureau = Check.loaded("bureau 1 1 2 5 3 0;office a 1 6 6;office b 1 6 6;office c 1 6 6;"
                 + "person x;person y;person z;person u;join x a;join y b;pass 1;join y a;join x b;join z b;pass 1;join u a;");
         Check.same("merge(0, 1)", 4, bureau.merge(0, 1));
@@ -267,6 +277,7 @@ public final class ChangeTest {
     }
 
     private static void mergeKeepsTheOrder() {
+        Check.promise(42);
         WaitingBureau bureau = Check.loaded("bureau 1 1 2 5 3 0;office a 1 6 6;office b 1 6 6;office c 1 6 6;"
                 + "person p;person q;person r;person s;person t;join p a;join q a;join r b;join s b;join t c;");
         bureau.merge(0, 1);
@@ -295,6 +306,7 @@ public final class ChangeTest {
     }
 
     private static void reopen() {
+        Check.promise(43);
         WaitingBureau bureau = Check.loaded("bureau 1 1 2 5 3 0;office a 1 6 6;office b 1 6 6;office c 1 6 6;person x;"
                 + "join x a;");
         Check.badState("reopen(0) of an open one", () -> bureau.reopen(0));
@@ -311,6 +323,7 @@ public final class ChangeTest {
     }
 
     private static void addPerson() {
+        Check.promise(44);
         WaitingBureau bureau = new WaitingBureau();
         for (String odd : new String[] {"", "abcdefg", "A", "a1", " a", "a ", "a;", "a\u00e1", "`", "{"}) {
             Check.put(bureau, odd);
@@ -343,6 +356,7 @@ public final class ChangeTest {
     }
 
     private static void set() {
+        Check.promise(45);
         WaitingBureau bureau = rich();
         int[] before = {0, 0, 1, 9, 10};
         int[] low = {0, 0, 1, 1, 1};
@@ -370,6 +384,7 @@ public final class ChangeTest {
     }
 
     private static void undo() {
+        Check.promise(46);
         WaitingBureau bureau = new WaitingBureau();
         Check.badState("undo() without changes", bureau::undo);
         for (int i = 0; i < 10; i++) {
@@ -458,6 +473,7 @@ public final class ChangeTest {
     }
 
     private static void undoOfEveryChange() {
+        Check.promise(46);
         for (int kind = 0; kind < 12; kind++) {
             WaitingBureau bureau = manifold();
             String before = reports(bureau);
@@ -476,6 +492,7 @@ public final class ChangeTest {
     }
 
     private static void undoOfAnOffer() {
+        Check.promise(46);
         WaitingBureau bureau = rich();
         bureau.set(4, 99);
         bureau.offer(1, 2);
@@ -493,6 +510,7 @@ public final class ChangeTest {
     }
 
     private static void undoOfAWitness() {
+        Check.promise(46);
         WaitingBureau bureau = Check.loaded("bureau 0 2 1 4 3 4;office a 2 2 6;person x;person y;"
                 + "join x a;join y a;pass 2;claim x;claim y;witness x y;");
         Check.same("whyNot of one who was helped in the text", 7, bureau.whyNot(0, 1));
@@ -510,6 +528,7 @@ public final class ChangeTest {
 
     /** What was in an object earlier is of no matter when it is loaded, and when persons and tickets are added. */
     private static void usedRowsBeginAnew() {
+        Check.promise(46);
         String small = "bureau 0 1 1 4 3 6;office a 1 2 6;person x;";
         String many = "bureau 0 1 1 4 3 10;office a 1 2 6;office b 1 1 6;person x;person y;person z;join y a;join x a;"
                 + "join z a;pass 4;join z b;join y b;join x b;pass 3;claim y;claim x;witness y x;";
@@ -557,6 +576,7 @@ public final class ChangeTest {
     }
 
     private static void save() {
+        Check.promise(47);
         WaitingBureau bureau = new WaitingBureau();
         bureau.save(0);
         Check.same("changes after save(0)", 0, bureau.count(12));
@@ -575,6 +595,7 @@ public final class ChangeTest {
     }
 
     private static void restore() {
+        Check.promise(48);
         WaitingBureau bureau = new WaitingBureau();
         Check.noElement("restore(0) of an empty slot", () -> bureau.restore(0));
         Check.noElement("restore(1) of an empty slot", () -> bureau.restore(1));

@@ -10,17 +10,32 @@ final class Check {
         void run();
     }
 
+    interface IntCall {
+        Object answer(int argument);
+    }
+
     private static int wrong = 0;
     private static int seen = 0;
+    private static String about = "";
 
     private Check() {
+    }
+
+    /** What follows belongs to a promise of the document. */
+    static void promise(int number) {
+        about = "promise " + number + ": ";
+    }
+
+    /** What follows belongs to a part of the "Terms" of the document. */
+    static void terms(String part) {
+        about = "terms, " + part + ": ";
     }
 
     static void same(String what, Object due, Object got) {
         seen++;
         if (!Objects.equals(due, got)) {
             wrong++;
-            System.out.println(what + " answered " + got + ", due is " + due);
+            System.out.println(about + what + " answered " + got + ", due is " + due);
         }
     }
 
@@ -45,6 +60,22 @@ final class Check {
 
     static void noElement(String what, Deed deed) {
         fails(what, java.util.NoSuchElementException.class, deed);
+    }
+
+    /** An argument can be what it can be first and last, and nothing beyond that. */
+    static void range(String what, Class<?> beyond, int first, int last, IntCall call) {
+        for (int good : new int[] {first, last}) {
+            Object got = outcome(() -> call.answer(good));
+            same(what + " of " + good + " throws", false, String.valueOf(got).startsWith("throws"));
+        }
+        beyond(what, beyond, first, last, call);
+    }
+
+    /** An argument can be nothing beyond what it can be first and last. */
+    static void beyond(String what, Class<?> due, int first, int last, IntCall call) {
+        for (int bad : new int[] {first - 1, last + 1, Integer.MIN_VALUE, Integer.MAX_VALUE}) {
+            fails(what + " of " + bad, due, () -> call.answer(bad));
+        }
     }
 
     /** The answer of a call, or the exact class of what it throws, so that a subclass counts as wrong. */

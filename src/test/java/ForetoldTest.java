@@ -21,6 +21,7 @@ public final class ForetoldTest {
     }
 
     private static void servedIn() {
+        Check.promise(26);
         WaitingBureau bureau = example();
         int[] due = {2, 2, 5, 5, 8, 5, 11};
         for (int ticket = 0; ticket < due.length; ticket++) {
@@ -39,6 +40,7 @@ public final class ForetoldTest {
     }
 
     private static void queueIn() {
+        Check.promise(27);
         WaitingBureau bureau = example();
         int[] due = {5, 5, 3, 3, 3, 1, 1, 1, 0, 0};
         for (int hours = 0; hours < due.length; hours++) {
@@ -55,6 +57,7 @@ public final class ForetoldTest {
     }
 
     private static void tokensIn() {
+        Check.promise(28);
         WaitingBureau bureau = Check.loaded("bureau 0 0 1 4 3 0;office a 2 6 6;person x;person y;person z;"
                 + "join x a;join y a;join z a;pass 12;claim x;claim z;");
         int[][] due = {{0, 8}, {7, 8}, {8, 14}, {27, 14}, {28, 18}, {47, 18}, {48, 18}, {200, 18}};
@@ -74,6 +77,7 @@ public final class ForetoldTest {
     }
 
     private static void tokensInStopsAtTheLimit() {
+        Check.promise(28);
         StringBuilder text = new StringBuilder("bureau 0 0 1 9 3 0;office a 4 6 20;");
         for (char name = 'a'; name < 'q'; name++) {
             text.append("person ").append(name).append(";");
@@ -92,6 +96,7 @@ public final class ForetoldTest {
     }
 
     private static void servedIf() {
+        Check.promise(29);
         WaitingBureau bureau = example();
         Check.same("servedIf(0)", 8, bureau.servedIf(0));
         Check.same("servedIf(1) of an office where x waits", 17, bureau.servedIf(1));
@@ -106,6 +111,7 @@ public final class ForetoldTest {
     }
 
     private static void bestOffice() {
+        Check.promise(30);
         WaitingBureau bureau = Check.loaded(
                 "bureau 0 0 1 4 3 0;office a 1 4 6;office b 1 2 6;office c 2 2 6;person x;person y;");
         Check.same("bestOffice(), the lowest of b and c", 1, bureau.bestOffice());
@@ -122,6 +128,7 @@ public final class ForetoldTest {
     }
 
     private static void longestIfMerged() {
+        Check.promise(31);
         WaitingBureau bureau = Check.loaded("bureau 1 1 2 5 3 0;office a 1 2 6;office b 1 3 6;office c 1 6 6;person x;"
                 + "person y;person z;person u;");
         Check.same("longestIfMerged(0, 1) without tickets", 0, bureau.longestIfMerged(0, 1));
@@ -150,6 +157,7 @@ public final class ForetoldTest {
     }
 
     private static void beyondTheLastTime() {
+        Check.promise(31);
         StringBuilder text = new StringBuilder("bureau 0 0 1 4 3 0;office a 1 6 6;office b 1 6 9;person x;person y;");
         for (int i = 0; i < 10; i++) {
             text.append("pass 99;");

@@ -19,6 +19,7 @@ public final class OutputTest {
     }
 
     private static void write() {
+        Check.promise(32);
         WaitingBureau bureau = Check.loaded("bureau 1 1 2 5 3 0;office a 1 6 6;office b 1 6 6;person abcdef;person z;"
                 + "person person;join z a;pass 5;join person a;pass 99;join abcdef a;join z b;");
         wrote(bureau, 0, "abcdef@104");
@@ -45,6 +46,7 @@ public final class OutputTest {
     }
 
     private static void longest() {
+        Check.promise(32);
         StringBuilder text = new StringBuilder("bureau 1 1 2 5 3 0;office a 1 6 20;");
         StringBuilder due = new StringBuilder();
         for (char name = 'a'; name < 'q'; name++) {
@@ -60,6 +62,7 @@ public final class OutputTest {
     }
 
     private static void outputByte() {
+        Check.promise(33);
         WaitingBureau bureau = new WaitingBureau();
         Check.outOfBounds("outputByte(0) without output", () -> bureau.outputByte(0));
         bureau.join(1, 0);
@@ -73,6 +76,7 @@ public final class OutputTest {
     }
 
     private static void outputIsNoState() {
+        Check.promise(33);
         WaitingBureau bureau = new WaitingBureau();
         bureau.save(0);
         bureau.join(1, 0);

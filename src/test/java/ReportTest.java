@@ -31,6 +31,7 @@ public final class ReportTest {
     }
 
     private static void count() {
+        Check.promise(8);
         WaitingBureau bureau = example();
         counts("of the example", bureau, 2, 3, 4, 4, 16, 2, 1, 1, 3, 0, 0, 7, 0);
         bureau.offer(1, 3);
@@ -48,6 +49,7 @@ public final class ReportTest {
     }
 
     private static void setting() {
+        Check.promise(9);
         WaitingBureau bureau = Check.loaded("bureau 9 3 8 20 99 0;office a 1 1 1;");
         int[] due = {9, 3, 8, 20, 99};
         for (int what = 0; what < 5; what++) {
@@ -58,6 +60,7 @@ public final class ReportTest {
     }
 
     private static void office() {
+        Check.promise(10);
         WaitingBureau bureau = example();
         int[][] due = {{1, 2, 6, 1, 1, 2}, {2, 3, 4, 1, 1, 0}};
         for (int office = 0; office < 2; office++) {
@@ -78,6 +81,7 @@ public final class ReportTest {
     }
 
     private static void queued() {
+        Check.promise(11);
         WaitingBureau bureau = new WaitingBureau();
         bureau.join(2, 0);
         bureau.join(0, 1);
@@ -95,6 +99,7 @@ public final class ReportTest {
     }
 
     private static void person() {
+        Check.promise(12);
         WaitingBureau bureau = example();
         int[][] due = {{0, 1, 0, 0, 0, 0, 0, 0, 1, 1}, {0, 2, 1, 3, 0, 0, 3, 3, 0, 0}, {0, 1, 1, 0, 0, 0, 0, 0, 0, 0}};
         persons("of the example", bureau, due);
@@ -128,6 +133,7 @@ public final class ReportTest {
     }
 
     private static void ticket() {
+        Check.promise(13);
         WaitingBureau bureau = example();
         int[][] due = {
             {0, 0, 0, 2, 1, 1, 0, 0, 1, 0, -1}, {1, 0, 0, 4, 1, 1, 1, 1, 3, 3, -1},
@@ -156,6 +162,7 @@ public final class ReportTest {
     }
 
     private static void token() {
+        Check.promise(14);
         WaitingBureau bureau = example();
         bureau.give(1, 0, 1);
         bureau.offer(1, 2);
@@ -182,6 +189,7 @@ public final class ReportTest {
     }
 
     private static void isPaidFor() {
+        Check.promise(15);
         WaitingBureau bureau = example();
         boolean[] due = {false, true, true, true, false};
         bureau.give(1, 2, 3);

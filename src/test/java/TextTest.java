@@ -25,6 +25,7 @@ public final class TextTest {
     }
 
     private static void newObject() {
+        Check.promise(1);
         WaitingBureau fresh = new WaitingBureau();
         WaitingBureau loaded = Check.loaded(
                 "bureau 1 1 2 5 3 20;office a 1 2 6;office b 1 1 4;person x;person y;person z;");
@@ -56,6 +57,7 @@ public final class TextTest {
     }
 
     private static void append() {
+        Check.promise(2);
         WaitingBureau bureau = new WaitingBureau();
         for (int length = 20; length <= 1000; length += 20) {
             Check.same("append", length, bureau.append(0x20202020, 0x20202020, 0x20202020, 0x20202020, 0x20202020));
@@ -76,6 +78,7 @@ public final class TextTest {
     }
 
     private static void truncate() {
+        Check.promise(3);
         WaitingBureau bureau = new WaitingBureau();
         Check.same("truncate(0)", 0, bureau.truncate(0));
         Check.outOfBounds("truncate(-1)", () -> bureau.truncate(-1));
@@ -89,6 +92,7 @@ public final class TextTest {
     }
 
     private static void load() {
+        Check.promise(4);
         WaitingBureau bureau = new WaitingBureau();
         Check.put(bureau, "bureau 9 3 9 20 99 99999;office a 4 6 20;office bcdefg 1 1 1;");
         Check.same("load() without persons", 0, bureau.load());
@@ -108,6 +112,7 @@ public final class TextTest {
     }
 
     private static void loadBeginsAnew() {
+        Check.promise(4);
         WaitingBureau bureau = Check.loaded(START + "join x a;pass 3;");
         bureau.save(0);
         bureau.pass(1);
@@ -129,6 +134,7 @@ public final class TextTest {
     }
 
     private static void failedLoadChangesNothing() {
+        Check.promise(4);
         WaitingBureau bureau = Check.loaded(START + "join x a;pass 3;");
         bureau.save(1);
         bureau.pass(1);
@@ -160,6 +166,7 @@ public final class TextTest {
     }
 
     private static void headErrors() {
+        Check.promise(4);
         error(1, "", "");
         error(1, "  \n ", "");
         error(1, "", "office");
@@ -190,6 +197,7 @@ public final class TextTest {
     }
 
     private static void officeErrors() {
+        Check.promise(4);
         error(1, HEAD + "office ", "1");
         error(1, HEAD + "office ", ";");
         error(1, HEAD + "office ", "abcdefg 1 1 1;");
@@ -216,6 +224,7 @@ public final class TextTest {
     }
 
     private static void personErrors() {
+        Check.promise(4);
         error(1, HEAD + OFFICE + "person ", "");
         error(1, HEAD + OFFICE + "person ", "1");
         error(1, HEAD + OFFICE + "person ", "witness;");
@@ -235,6 +244,7 @@ public final class TextTest {
     }
 
     private static void deedErrors() {
+        Check.promise(4);
         error(1, START, "leave x;");
         error(1, START, ";");
         error(1, START, "1");
@@ -266,6 +276,7 @@ public final class TextTest {
     }
 
     private static void impossibleDeeds() {
+        Check.promise(4);
         error(6, START + "join x a;join x a ", ";");
         error(6, HEAD + "office a 1 2 1;person x;person y;join x a;join y a", ";pass");
         StringBuilder sixty = new StringBuilder(HEAD);
@@ -296,6 +307,7 @@ public final class TextTest {
     }
 
     private static void tokensOfTheText() {
+        Check.promise(4);
         WaitingBureau bureau = new WaitingBureau();
         Check.put(bureau, "bureau0 0 1 1 1 0;office a1 1 1;person x;person claim;join x a;pass1;claim x;join claim a;");
         Check.same("load() with touching tokens", 2, bureau.load());
@@ -313,6 +325,7 @@ public final class TextTest {
     }
 
     private static void find() {
+        Check.promise(7);
         WaitingBureau bureau = Check.loaded(HEAD + "office a 1 1 1;office pass 1 1 1;person b;person pass;person ab;");
         for (Object[] due : new Object[][] {{"a", 0, -1}, {"pass", 1, 1}, {"b", -1, 0}, {"ab", -1, 2}, {"", -1, -1},
             {"ba", -1, -1}, {" a", -1, -1}, {"a ", -1, -1}, {"abcdefg", -1, -1}, {"A", -1, -1}, {"a\u00e9", -1, -1}}) {

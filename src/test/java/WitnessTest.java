@@ -24,6 +24,7 @@ public final class WitnessTest {
     }
 
     private static void reasonsInTheirOrder() {
+        Check.promise(16);
         WaitingBureau bureau = example();
         Check.same("whyNot of an unclaimed ticket", 1, bureau.whyNot(2, 0));
         Check.same("whyNot of an unclaimed own ticket", 1, bureau.whyNot(2, 2));
@@ -50,6 +51,7 @@ public final class WitnessTest {
     }
 
     private static void reasonsOfTheWeek() {
+        Check.promise(16);
         WaitingBureau bureau = Check.loaded("bureau 0 3 1 5 3 0;office a 4 1 9;office b 2 3 9;person x;person y;"
                 + "person z;person u;person v;join x b;join y b;join z b;join u b;join v b;pass 9;");
         for (int ticket = 0; ticket < 5; ticket++) {
@@ -79,6 +81,7 @@ public final class WitnessTest {
     }
 
     private static void common() {
+        Check.promise(17);
         WaitingBureau bureau = Check.loaded("bureau 1 2 2 5 3 0;office a 1 6 6;office b 1 6 6;person x;person y;"
                 + "person z;pass 1;join x a;pass 2;join y a;pass 1;join z b;pass 3;");
         Check.same("common(0, 1) of one who waits", 3, bureau.common(0, 1));
@@ -106,6 +109,7 @@ public final class WitnessTest {
     }
 
     private static void witnessFor() {
+        Check.promise(18);
         WaitingBureau bureau = example();
         Check.noElement("witnessFor(2, 0) of an unclaimed ticket", () -> bureau.witnessFor(2, 0));
         bureau.claim(2);
@@ -122,6 +126,7 @@ public final class WitnessTest {
     }
 
     private static void isWitness() {
+        Check.promise(19);
         WaitingBureau bureau = example();
         bureau.claim(2);
         bureau.claim(1);
@@ -137,6 +142,7 @@ public final class WitnessTest {
     }
 
     private static void worth() {
+        Check.promise(20);
         WaitingBureau bureau = Check.loaded("bureau 1 0 2 4 3 0;office a 1 6 6;office b 1 1 6;person x;person y;"
                 + "join x a;join y a;pass 3;join x b;pass 2;");
         Check.same("worth(0) of one who waits", 0, bureau.worth(0));
@@ -167,6 +173,7 @@ public final class WitnessTest {
 
     /** Sixteen persons wait together, so that their hours are more than 200. */
     private static void worthAtTheLimits() {
+        Check.promise(20);
         StringBuilder text = new StringBuilder("bureau 0 0 1 20 9 0;office a 4 6 20;");
         for (char name = 'a'; name < 'q'; name++) {
             text.append("person ").append(name).append(";");
@@ -199,6 +206,7 @@ public final class WitnessTest {
     }
 
     private static void claim() {
+        Check.promise(37);
         WaitingBureau bureau = Check.loaded("bureau 0 0 2 4 3 0;office a 1 3 6;office b 1 5 6;person x;person y;"
                 + "join x a;join y b;join x b;pass 2;");
         Check.badState("claim(0) of one who waits", () -> bureau.claim(0));
@@ -225,6 +233,7 @@ public final class WitnessTest {
     }
 
     private static void witness() {
+        Check.promise(38);
         WaitingBureau bureau = example();
         Check.badState("witness of an unclaimed ticket", () -> bureau.witness(2, 0));
         bureau.claim(2);
@@ -245,6 +254,7 @@ public final class WitnessTest {
     }
 
     private static void changedNeed() {
+        Check.promise(45);
         WaitingBureau bureau = example();
         bureau.claim(2);
         bureau.witness(2, 0);
