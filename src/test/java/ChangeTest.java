@@ -19,7 +19,6 @@ public final class ChangeTest {
         addPerson();
         set();
         undo();
-        undoOfEveryChange();
         undoOfAnOffer();
         undoOfAWitness();
         usedRowsBeginAnew();
@@ -403,106 +402,29 @@ public final class ChangeTest {
         Check.same("FUND", 22, bureau.count(11));
     }
 
-    /** What a state is, as far as the reports tell. */
-    private static String reports(WaitingBureau bureau) {
-        StringBuilder all = new StringBuilder();
-        for (int what = 0; what < 12; what++) {
-            all.append(bureau.count(what)).append(' ');
-        }
-        for (int what = 0; what < 5; what++) {
-            all.append(bureau.setting(what)).append(' ');
-        }
-        for (int office = 0; office < bureau.count(0); office++) {
-            for (int what = 0; what < 6; what++) {
-                all.append(bureau.office(office, what)).append(' ');
-            }
-            for (int place = 0; place < bureau.office(office, 4); place++) {
-                all.append(bureau.queued(office, place)).append(' ');
-            }
-        }
-        for (int person = 0; person < bureau.count(1); person++) {
-            for (int what = 0; what < 10; what++) {
-                all.append(bureau.person(person, what)).append(' ');
-            }
-            for (int hour = 0; hour < 30; hour++) {
-                all.append(bureau.isPaidFor(person, hour)).append(' ');
-            }
-        }
-        for (int ticket = 0; ticket < bureau.count(2); ticket++) {
-            for (int what = 0; what < 11; what++) {
-                all.append(bureau.ticket(ticket, what)).append(' ');
-            }
-            for (int person = 0; person < bureau.count(1); person++) {
-                all.append(bureau.whyNot(ticket, person)).append(' ').append(bureau.isWitness(ticket, person)).append(' ');
-            }
-        }
-        for (int token = 0; token < bureau.count(8); token++) {
-            for (int what = 0; what < 5; what++) {
-                all.append(bureau.token(token, what)).append(' ');
-            }
-        }
-        return all.toString();
-    }
-
-    /** A change of every kind can be done with the example: u was served and has no claim, c is closed. */
-    private static WaitingBureau manifold() {
-        WaitingBureau bureau = Check.loaded("bureau 0 1 1 4 3 4;office a 1 2 6;office b 1 6 6;office c 1 1 6;"
-                + "person x;person y;person z;person u;join x a;join y a;join z a;join z b;join u c;pass 5;"
-                + "claim x;claim y;witness x y;");
-        bureau.merge(2, 1);
-        bureau.save(0);
-        bureau.restore(0);
-        return bureau;
-    }
-
-    private static void doChange(WaitingBureau bureau, int kind) {
-        switch (kind) {
-            case 0: bureau.join(1, 1); break;
-            case 1: bureau.leave(2); break;
-            case 2: bureau.pass(17); break;
-            case 3: bureau.claim(4); break;
-            case 4: bureau.witness(0, 2); break;
-            case 5: bureau.give(1, 2, 2); break;
-            case 6: bureau.offer(1, 3); break;
-            case 7: bureau.deposit(9); break;
-            case 8: bureau.merge(0, 1); break;
-            case 9: bureau.reopen(2); break;
-            case 10: Check.put(bureau, "new"); bureau.addPerson(); break;
-            default: bureau.set(0, 3); break;
-        }
-    }
-
-    private static void undoOfEveryChange() {
-        Check.promise(46);
-        for (int kind = 0; kind < 12; kind++) {
-            WaitingBureau bureau = manifold();
-            String before = reports(bureau);
-            bureau.save(1);
-            doChange(bureau, kind);
-            String after = reports(bureau);
-            Check.same("whether change " + kind + " changes anything", false, before.equals(after));
-            Check.same("changes after change " + kind, 1, bureau.count(12));
-            Check.same("undo() of change " + kind, 0, bureau.undo());
-            Check.same("state after undo() of change " + kind, before, reports(bureau));
-            doChange(bureau, kind);
-            Check.same("state after change " + kind + " again", after, reports(bureau));
-            bureau.restore(1);
-            Check.same("state after restore(1) of change " + kind, before, reports(bureau));
-        }
-    }
-
-    private static void undoOfAnOffer() {
-        Check.promise(46);
+    /** Four tokens are offered. */
+    private static WaitingBureau offered() {
         WaitingBureau bureau = rich();
         bureau.set(4, 99);
         bureau.offer(1, 2);
         bureau.offer(0, 2);
-        String before = reports(bureau);
+        return bureau;
+    }
+
+    private static WaitingBureau paidAndUndone() {
+        WaitingBureau bureau = offered();
         bureau.deposit(300);
         bureau.offer(0, 1);
         bureau.undo();
         bureau.undo();
-        Check.same("state with offered tokens after undo()", before, reports(bureau));
+        return bureau;
+    }
+
+    private static void undoOfAnOffer() {
+        Check.promise(46);
+        Check.same("everything with offered tokens after undo()", Snapshot.of(ChangeTest::offered),
+                Snapshot.of(ChangeTest::paidAndUndone));
+        WaitingBureau bureau = paidAndUndone();
         Check.same("place of 0 after undo()", 0, bureau.token(0, 4));
         Check.same("place of 5 after undo()", 3, bureau.token(5, 4));
         bureau.undo();
@@ -526,41 +448,45 @@ public final class ChangeTest {
         Check.same("whyNot after restore(0)", 7, bureau.whyNot(0, 1));
     }
 
-    /** What was in an object earlier is of no matter when it is loaded, and when persons and tickets are added. */
-    private static void usedRowsBeginAnew() {
-        Check.promise(46);
-        String small = "bureau 0 1 1 4 3 6;office a 1 2 6;person x;";
-        String many = "bureau 0 1 1 4 3 10;office a 1 2 6;office b 1 1 6;person x;person y;person z;join y a;join x a;"
-                + "join z a;pass 4;join z b;join y b;join x b;pass 3;claim y;claim x;witness y x;";
-        WaitingBureau fresh = Check.loaded(small);
-        WaitingBureau used = Check.loaded(many);
+    private static final String SMALL = "bureau 0 1 1 4 3 6;office a 1 2 6;person x;";
+
+    /** An object in which all that is told of a state has been something else. */
+    private static WaitingBureau used() {
+        WaitingBureau used = Check.loaded("bureau 0 1 1 4 3 10;office a 1 2 6;office b 1 1 6;person x;person y;person z;"
+                + "join y a;join x a;join z a;pass 4;join z b;join y b;join x b;pass 3;claim y;claim x;witness y x;");
         used.witness(4, 2);
         used.offer(0, 3);
         used.offer(1, 2);
-        Check.same("offered tokens", 2, used.count(9));
         used.tokensIn(1);
-        Check.put(used, small);
+        Check.put(used, SMALL);
         used.load();
-        Check.same("state after load()", reports(fresh), reports(used));
-        for (WaitingBureau bureau : new WaitingBureau[] {fresh, used}) {
-            addAndWait(bureau, 0);
+        return used;
+    }
+
+    private static WaitingBureau undone() {
+        WaitingBureau bureau = addAndWait(Check.loaded(SMALL), 0);
+        bureau.offer(1, 2);
+        for (int i = 0; i < 8; i++) {
+            bureau.undo();
         }
-        Check.same("state after load() and changes", reports(fresh), reports(used));
-        WaitingBureau plain = Check.loaded(small);
-        addAndWait(plain, 1);
-        WaitingBureau undone = Check.loaded(small);
-        addAndWait(undone, 0);
-        Check.same("paid tokens", 2, undone.offer(1, 2));
-        for (int left = 7; left >= 0; left--) {
-            undone.undo();
-        }
-        Check.same("persons after undo()", 1, undone.count(1));
-        addAndWait(undone, 1);
-        Check.same("state after undo() and other changes", reports(plain), reports(undone));
+        return bureau;
+    }
+
+    /** What was in an object earlier is of no matter when it is loaded, and when persons and tickets are added. */
+    private static void usedRowsBeginAnew() {
+        Check.promise(4);
+        Check.same("state after load()", Snapshot.of(() -> Check.loaded(SMALL)), Snapshot.of(ChangeTest::used));
+        Check.same("state after load() and changes", Snapshot.of(() -> addAndWait(Check.loaded(SMALL), 0)),
+                Snapshot.of(() -> addAndWait(used(), 0)));
+        Check.promise(46);
+        Check.same("persons after undo()", 1, undone().count(1));
+        Check.same("state after undo()", Snapshot.of(() -> Check.loaded(SMALL)), Snapshot.of(ChangeTest::undone));
+        Check.same("state after undo() and other changes", Snapshot.of(() -> addAndWait(Check.loaded(SMALL), 1)),
+                Snapshot.of(() -> addAndWait(undone(), 1)));
     }
 
     /** Seven changes. */
-    private static void addAndWait(WaitingBureau bureau, int way) {
+    private static WaitingBureau addAndWait(WaitingBureau bureau, int way) {
         Check.put(bureau, "y");
         bureau.addPerson();
         bureau.join(way, 0);
@@ -573,6 +499,7 @@ public final class ChangeTest {
             bureau.set(0, 1);
         }
         bureau.join(1, 0);
+        return bureau;
     }
 
     private static void save() {

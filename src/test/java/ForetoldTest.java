@@ -157,7 +157,7 @@ public final class ForetoldTest {
     }
 
     private static void beyondTheLastTime() {
-        Check.promise(31);
+        Check.terms("what is foretold goes on beyond 999");
         StringBuilder text = new StringBuilder("bureau 0 0 1 4 3 0;office a 1 6 6;office b 1 6 9;person x;person y;");
         for (int i = 0; i < 10; i++) {
             text.append("pass 99;");

@@ -58,13 +58,12 @@ public final class OutputEdgesTest {
     }
 
     private static void blanks() {
-        WaitingBureau bureau = Check.loaded("bureau 0 0 1 20 1 9;office a 1 1 16;" + Texts.persons(16));
         StringBuilder due = new StringBuilder();
-        wrote(bureau, 0, "");
-        for (int person = 0; person < 16; person++) {
-            bureau.join(person, 0);
-            due.append(person == 0 ? "" : " ").append(Texts.name(person)).append("@0");
+        for (int many = 0; many <= 16; many++) {
+            WaitingBureau bureau = Check.loaded("bureau 0 0 1 20 1 9;office a 1 1 16;" + Texts.persons(16)
+                    + Texts.joins(many, "a"));
             wrote(bureau, 0, due.toString());
+            due.append(many == 0 ? "" : " ").append(Texts.name(many)).append("@0");
         }
     }
 

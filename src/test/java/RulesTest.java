@@ -85,16 +85,16 @@ public final class RulesTest {
 
     /** Only the constructor and what is thrown may make anything: a run has one room for all that it makes. */
     private static void room() {
-        WaitingBureau bureau = new WaitingBureau();
-        for (int i = 0; i < 2000; i++) {
-            useAll(bureau);
-        }
-        long before = bytesMade();
         for (int i = 0; i < 200; i++) {
-            useAll(bureau);
+            madeByCalls();
         }
-        Check.same("whether 200 rounds of calls make less than 64 KB", true, bytesMade() - before < 65536);
-        before = bytesMade();
+        long made = 0;
+        for (int i = 0; i < 20; i++) {
+            made += madeByCalls();
+        }
+        Check.same("whether 200 rounds of calls make less than 64 KB", true, made < 65536);
+        long before = bytesMade();
+        WaitingBureau bureau = null;
         for (int i = 0; i < 10; i++) {
             bureau = new WaitingBureau();
         }
@@ -102,8 +102,18 @@ public final class RulesTest {
         Check.same("persons", 3, bureau.count(1));
     }
 
+    /** Ten rounds of calls with one object. */
+    private static long madeByCalls() {
+        WaitingBureau bureau = new WaitingBureau();
+        long before = bytesMade();
+        for (int round = 0; round < 10; round++) {
+            useAll(bureau);
+        }
+        return bytesMade() - before;
+    }
+
     private static void useAll(WaitingBureau bureau) {
-        Check.put(bureau, "");
+        bureau.truncate(0);
         for (int i = 0; i < TEXT.length; i += 5) {
             bureau.append(TEXT[i], TEXT[i + 1], TEXT[i + 2], TEXT[i + 3], TEXT[i + 4]);
         }
