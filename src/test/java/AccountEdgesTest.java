@@ -10,6 +10,7 @@ public final class AccountEdgesTest {
         repaidCountsHoursOnce();
         unluckiest();
         unluckiestCountsHoursOnce();
+        lastHours();
         gap();
         Check.end("AccountEdgesTest");
     }
@@ -129,6 +130,37 @@ public final class AccountEdgesTest {
         Check.same("unluckiest() at 3", 0, bureau.unluckiest());
         bureau.pass(1);
         Check.same("unluckiest() at 4", 1, bureau.unluckiest());
+    }
+
+    /** The hours until the time 999; b has no token for them, and loses more than a, but not more than c. */
+    private static void lastHours() {
+        String text = "bureau 0 0 1 20 1 0;office a 2 5 9;office b 1 3 9;office c 1 1 1;" + Texts.persons(3) + Texts.pass(990)
+                + "join a a;join b b;join c b;pass 5;claim a;";
+        WaitingBureau bureau = Check.loaded(text + "pass 1;join c c;");
+        Check.same("time", 996, bureau.count(3));
+        Check.promise(12);
+        Check.same("hours of a without a token", 0, bureau.person(0, 9));
+        Check.same("hours of b without a token", 3, bureau.person(1, 9));
+        Check.same("hours of c without a token", 6, bureau.person(2, 9));
+        Check.promise(24);
+        Check.same("unluckiest() at 996", 2, bureau.unluckiest());
+        Check.promise(23);
+        Check.same("repaid() at 996", 5.0 / 14.0, bureau.repaid());
+        bureau.pass(3);
+        Check.same("repaid() at 999", 5.0 / 15.0, bureau.repaid());
+        Check.promise(12);
+        Check.same("hours of c without a token at 999", 7, bureau.person(2, 9));
+        WaitingBureau last = Check.loaded("bureau 0 0 1 20 1 0;office a 1 1 9;person x;" + Texts.pass(998) + "join x a;pass 1;");
+        Check.same("the hour 998 of x without a token", 1, last.person(0, 9));
+        Check.promise(24);
+        Check.same("unluckiest() of the hour 998", 0, last.unluckiest());
+        Check.promise(23);
+        Check.same("repaid() of the hour 998", 0.0, last.repaid());
+        last.claim(0);
+        Check.same("repaid() of the hour 998 with a token", 1.0, last.repaid());
+        Check.promise(15);
+        Check.same("isPaidFor(0, 998)", true, last.isPaidFor(0, 998));
+        Check.same("isPaidFor(0, 999)", false, last.isPaidFor(0, 999));
     }
 
     private static void gap() {

@@ -296,6 +296,10 @@ public final class ForetoldEdgesTest {
         WaitingBureau full = Check.loaded("bureau 0 0 1 20 1 9;office a 1 6 1;office b 1 6 1;person x;person y;"
                 + "join x a;join y b;");
         Check.same("longestIfMerged(0, 1) above LIMIT", 12, full.longestIfMerged(0, 1));
+        WaitingBureau late = Check.loaded("bureau 0 0 1 20 1 9;office a 4 6 9;office b 1 1 9;person x;person y;"
+                + "join x a;pass 5;join y a;");
+        Check.same("longestIfMerged(1, 0) of 0 to 6 and 5 to 6", 6, late.longestIfMerged(1, 0));
+        Check.same("longestIfMerged(0, 1) of 0 to 6 and 5 to 7", 6, late.longestIfMerged(0, 1));
     }
 
     /** The ticket of x that is behind would leave, so that y is served earlier. */

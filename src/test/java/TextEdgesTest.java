@@ -14,8 +14,10 @@ public final class TextEdgesTest {
         bytesInTheirOrder();
         truncate();
         load();
+        loadIntoUsedRows();
         wholeBuffer();
         errorOfTheLatestLoad();
+        leftOut();
         headNumbers();
         officeNumbers();
         passNumbers();
@@ -138,6 +140,30 @@ public final class TextEdgesTest {
         return bureau;
     }
 
+    /** What was tried out ahead of it, by a text with an error or by foretelling, leaves nothing in what is loaded. */
+    private static void loadIntoUsedRows() {
+        Check.promise(4);
+        String text = HEAD + Texts.offices(6, "1 6 16") + Texts.persons(16);
+        String due = Snapshot.state(() -> Check.loaded(text));
+        String used = "bureau 0 1 1 20 1 50;" + Texts.offices(6, "4 6 16") + Texts.persons(16)
+                + Texts.joins(16, "a") + Texts.joins(9, "f") + "pass 12;claim a;witness b a;join p f;";
+        Check.same("state after a load() that throws and one that does not", due, Snapshot.state(() -> {
+            WaitingBureau bureau = new WaitingBureau();
+            Check.put(bureau, used + "?");
+            Check.badArgument("load()", bureau::load);
+            Check.put(bureau, text);
+            bureau.load();
+            return bureau;
+        }));
+        Check.same("state after foretelling and load()", due, Snapshot.state(() -> {
+            WaitingBureau bureau = Check.loaded(used);
+            bureau.tokensIn(1);
+            Check.put(bureau, text);
+            bureau.load();
+            return bureau;
+        }));
+    }
+
     /** A text of 1000 bytes, with its last token or an error at its very end. */
     private static void wholeBuffer() {
         Check.promise(4);
@@ -192,6 +218,44 @@ public final class TextEdgesTest {
             Check.promise(6);
             Check.same("errorPosition() when there was no error", WaitingBureau.NONE, bureau.errorPosition());
         }
+    }
+
+    // ---- code 1
+
+    /** Where one token is left out, the next one cannot stand; but numbers and names take the place of others. */
+    private static void leftOut() {
+        Check.promise(4);
+        String[] tokens = ("bureau 1 0 2 5 3 20 ; office a 1 2 6 ; office b 1 1 4 ; person x ; person y ; "
+                + "join x a ; pass 2 ; claim x ; join y b ; join x b ; pass 3 ; claim y ; witness x y ;").split(" ");
+        for (int left = 0; left < tokens.length; left++) {
+            String before = left == 0 ? "" : tokens[left - 1];
+            boolean isMovedUp = tokens[left].matches("[0-9]+") || before.equals("witness");
+            int wrong = left + 1;
+            while (isMovedUp && !tokens[wrong].equals(";")) {
+                wrong++;
+            }
+            // The name of an office stands in the place of a person then.
+            int code = before.equals("join") ? 4 : 1;
+            error(code, joined(tokens, 0, left) + joined(tokens, left + 1, wrong), joined(tokens, wrong, tokens.length));
+        }
+        for (int numbers = 0; numbers < 6; numbers++) {
+            String head = joined(tokens, 0, numbers + 1);
+            error(1, head, joined(tokens, 7, tokens.length));
+            error(1, head, joined(tokens, 8, tokens.length));
+            error(1, head, "");
+        }
+        for (int numbers = 0; numbers < 3; numbers++) {
+            error(1, joined(tokens, 0, numbers + 10), joined(tokens, 13, tokens.length));
+            error(1, joined(tokens, 0, numbers + 10), joined(tokens, 14, tokens.length));
+        }
+    }
+
+    private static String joined(String[] tokens, int from, int to) {
+        StringBuilder text = new StringBuilder();
+        for (int i = from; i < to; i++) {
+            text.append(tokens[i]).append(' ');
+        }
+        return text.toString();
     }
 
     // ---- code 2
@@ -471,6 +535,13 @@ public final class TextEdgesTest {
         error(6, START + "join x a;join y a", ";join q q;");
         error(4, START + "join ", "q a;join x a;join x a;");
         error(1, START, "?person x;join q a;");
+        error(1, START + "join x a;join x a ", "?;");
+        error(1, START + Texts.pass(999) + "pass 1 ", "pass 1;");
+        error(1, START + Texts.pass(999) + "pass 1", "");
+        error(1, START + "join x a;claim x ", "claim x;");
+        error(1, START + "join x a;claim x", "");
+        error(1, START + "join x a;witness y x ", "witness y x;");
+        error(1, START + "join x a;witness y x", "");
     }
 
     // ---- find

@@ -14,6 +14,8 @@ public final class UndoEdgesTest {
         whatIsNoChange();
         whatUndoLeaves();
         undoOfWeeks();
+        lastPerson();
+        usedRows();
         slots();
         twoSlots();
         savedAgain();
@@ -146,7 +148,6 @@ public final class UndoEdgesTest {
         bureau.tokensIn(9);
         bureau.longestIfMerged(0, 1);
         Check.badArgument("load()", bureau::load);
-        Check.badState("leave()", () -> new WaitingBureau().reopen(0));
         Check.badState("reopen(0)", () -> bureau.reopen(0));
         Check.badArgument("addPerson()", bureau::addPerson);
         Check.same("changes after all that", 1, bureau.count(12));
@@ -167,7 +168,7 @@ public final class UndoEdgesTest {
         Check.put(bureau, "x");
         bureau.undo();
         bureau.undo();
-        Check.same("length of the output", "x@0", Check.output(bureau, 3));
+        Check.same("output", "x@0", Check.output(bureau, 3));
         Check.same("errorCode()", 1, bureau.errorCode());
         Check.same("errorPosition()", 1, bureau.errorPosition());
         Check.same("truncate(1) of the buffer", 1, bureau.truncate(1));
@@ -203,6 +204,90 @@ public final class UndoEdgesTest {
         Check.same("whyNot(3, 0) in the new week", 0, bureau.whyNot(3, 0));
         bureau.undo();
         Check.same("whyNot(3, 0) when the week is undone", 7, bureau.whyNot(3, 0));
+    }
+
+    /** The last of the persons, tickets and offices come back like the others. */
+    private static void lastPerson() {
+        Check.promise(46);
+        String text = "bureau 0 1 1 20 1 9;" + Texts.offices(6, "4 3 16") + Texts.persons(16) + "join o f;join p f;pass 3;"
+                + "claim o;claim p;";
+        String due = Snapshot.state(() -> Check.loaded(text));
+        Check.same("state after undo() of witnesses", due, Snapshot.state(() -> {
+            WaitingBureau bureau = Check.loaded(text);
+            bureau.witness(1, 14);
+            bureau.offer(15, 3);
+            bureau.merge(5, 4);
+            bureau.undo();
+            bureau.undo();
+            bureau.undo();
+            return bureau;
+        }));
+        WaitingBureau bureau = Check.loaded(text);
+        bureau.witness(0, 15);
+        Check.same("times that the last person was a witness", 1, bureau.person(15, 8));
+        Check.same("whyNot(1, 14)", 7, bureau.whyNot(1, 14));
+        bureau.undo();
+        Check.same("times that it was one after undo()", 0, bureau.person(15, 8));
+        Check.same("whyNot(1, 14) after undo()", 0, bureau.whyNot(1, 14));
+        bureau.witness(1, 14);
+        Check.same("tokens that the last person got made", 3, bureau.person(15, 7));
+        bureau.save(0);
+        bureau.undo();
+        Check.same("tokens that it got made after undo()", 0, bureau.person(15, 7));
+        Check.promise(48);
+        bureau.restore(0);
+        Check.same("tokens that it got made after restore()", 3, bureau.person(15, 7));
+    }
+
+    /** A ticket, a token or a person that comes in place of one that was undone has nothing of it. */
+    private static void usedRows() {
+        Check.promise(46);
+        String text = "bureau 0 1 1 20 1 9;office a 4 3 16;" + Texts.persons(3) + "join a a;";
+        Snapshot.Maker plain = () -> {
+            WaitingBureau bureau = Check.loaded(text);
+            bureau.join(1, 0);
+            bureau.pass(3);
+            bureau.claim(1);
+            Check.put(bureau, "new");
+            bureau.addPerson();
+            return bureau;
+        };
+        Check.same("everything after other changes that were undone", Snapshot.state(plain), Snapshot.state(() -> {
+            WaitingBureau bureau = Check.loaded(text);
+            bureau.join(2, 0);
+            bureau.pass(3);
+            bureau.claim(1);
+            bureau.witness(1, 0);
+            bureau.offer(2, 3);
+            for (int i = 0; i < 5; i++) {
+                bureau.undo();
+            }
+            Check.put(bureau, "old");
+            bureau.addPerson();
+            bureau.join(3, 0);
+            bureau.pass(3);
+            bureau.claim(1);
+            bureau.claim(0);
+            bureau.witness(1, 0);
+            for (int i = 0; i < 6; i++) {
+                bureau.undo();
+            }
+            bureau.join(1, 0);
+            bureau.pass(3);
+            bureau.claim(1);
+            Check.put(bureau, "new");
+            bureau.addPerson();
+            return bureau;
+        }));
+        WaitingBureau bureau = Check.loaded(text);
+        bureau.pass(3);
+        bureau.claim(0);
+        bureau.undo();
+        bureau.undo();
+        bureau.join(1, 0);
+        bureau.pass(3);
+        Check.same("claimed tickets", 0, bureau.count(6));
+        Check.same("whyNot(1, 0)", 1, bureau.whyNot(1, 0));
     }
 
     // ---- save and restore
@@ -333,7 +418,7 @@ public final class UndoEdgesTest {
         Check.put(bureau, "x");
         bureau.restore(0);
         Check.same("PRICE", 3, bureau.setting(4));
-        Check.same("length of the output", "x@0", Check.output(bureau, 3));
+        Check.same("output", "x@0", Check.output(bureau, 3));
         Check.same("errorCode()", 1, bureau.errorCode());
         Check.same("errorPosition()", 1, bureau.errorPosition());
         Check.same("truncate(1) of the buffer", 1, bureau.truncate(1));
