@@ -14,6 +14,7 @@ public final class ReportEdgesTest {
         office();
         queued();
         person();
+        personAtSixOffices();
         personInTheNewWeek();
         ticket();
         lostHours();
@@ -162,6 +163,28 @@ public final class ReportEdgesTest {
         for (int what = 0; what < due.length; what++) {
             Check.same("person(" + person + ", " + what + ")", due[what], bureau.person(person, what));
         }
+    }
+
+    private static void personAtSixOffices() {
+        Check.promise(12);
+        WaitingBureau bureau = Check.loaded("bureau 0 0 1 1 1 0;" + Texts.offices(6, "1 6 9") + Texts.persons(2));
+        for (int office = 0; office < 6; office++) {
+            bureau.join(1, office);
+            Check.same("tickets", office + 1, bureau.person(1, 1));
+            Check.same("waiting tickets", office + 1, bureau.person(1, 2));
+            Check.same("tickets of another person", 0, bureau.person(0, 1));
+            Check.same("waiting tickets of another person", 0, bureau.person(0, 2));
+        }
+        bureau.leave(0);
+        Check.same("waiting tickets when the first one left", 5, bureau.person(1, 2));
+        bureau.leave(5);
+        Check.same("waiting tickets when the last one left", 4, bureau.person(1, 2));
+        bureau.join(0, 0);
+        Check.same("waiting tickets ahead of that of another person", 4, bureau.person(1, 2));
+        Check.same("waiting tickets of the other person", 1, bureau.person(0, 2));
+        bureau.pass(6);
+        Check.same("waiting tickets when all are served", 0, bureau.person(1, 2));
+        Check.same("tickets when all are served", 6, bureau.person(1, 1));
     }
 
     /** What is counted of this week begins anew at 20, not at 19. */

@@ -17,6 +17,7 @@ public final class TextEdgesTest {
         loadIntoUsedRows();
         wholeBuffer();
         errorOfTheLatestLoad();
+        wordsOfTheGrammar();
         leftOut();
         headNumbers();
         officeNumbers();
@@ -143,11 +144,20 @@ public final class TextEdgesTest {
     /** What was tried out ahead of it, by a text with an error or by foretelling, leaves nothing in what is loaded. */
     private static void loadIntoUsedRows() {
         Check.promise(4);
-        String text = HEAD + Texts.offices(6, "1 6 16") + Texts.persons(16);
-        String due = Snapshot.state(() -> Check.loaded(text));
-        String used = "bureau 0 1 1 20 1 50;" + Texts.offices(6, "4 6 16") + Texts.persons(16)
+        String used = "bureau 0 1 1 20 1 2;" + Texts.offices(6, "4 6 16") + Texts.persons(16)
                 + Texts.joins(16, "a") + Texts.joins(9, "f") + "pass 12;claim a;witness b a;join p f;";
-        Check.same("state after a load() that throws and one that does not", due, Snapshot.state(() -> {
+        loadIntoUsedRows(used, HEAD + Texts.offices(6, "1 6 16") + Texts.persons(16));
+        loadIntoUsedRows(used, "bureau 0 1 1 9 1 9;" + Texts.offices(2, "4 6 16") + Texts.persons(9)
+                + "join i a;join h a;join g a;join f a;join e b;pass 6;claim f;claim g;witness h g;join i a;join h b;");
+        loadIntoUsedRows("bureau 0 0 1 9 1 2;office a 4 3 9;person x;person y;join x a;join y a;pass 3;claim x;claim y;",
+                "bureau 0 1 1 9 1 9;office a 4 3 9;person x;person y;join x a;pass 1;join y a;pass 5;claim y;witness x y;");
+        loadIntoUsedRows("bureau 0 1 1 9 1 2;office a 4 3 9;person x;person y;join x a;join y a;pass 3;claim x;witness y x;",
+                "bureau 0 1 1 9 1 9;office a 4 3 9;person x;person y;join x a;join y a;pass 3;claim y;");
+    }
+
+    private static void loadIntoUsedRows(String used, String text) {
+        String due = Snapshot.state(() -> Check.loaded(text));
+        Check.same("state after a load() that throws and that of " + text, due, Snapshot.state(() -> {
             WaitingBureau bureau = new WaitingBureau();
             Check.put(bureau, used + "?");
             Check.badArgument("load()", bureau::load);
@@ -155,13 +165,51 @@ public final class TextEdgesTest {
             bureau.load();
             return bureau;
         }));
-        Check.same("state after foretelling and load()", due, Snapshot.state(() -> {
+        Check.same("state after foretelling and load() of " + text, due, Snapshot.state(() -> {
             WaitingBureau bureau = Check.loaded(used);
+            bureau.offer(0, 3);
             bureau.tokensIn(1);
             Check.put(bureau, text);
             bureau.load();
             return bureau;
         }));
+    }
+
+    /** No letter of a word of the grammar can be another one, and none can be left out or come more. */
+    private static void wordsOfTheGrammar() {
+        Check.promise(4);
+        String[] words = {"bureau", "office", "person", "join", "pass", "claim", "witness"};
+        String[] rests = {" 9 3 9 20 99 9;office a 1 1 1;", " b 1 1 1;", " p;", " x a;", " 1;", " x;", " y x;"};
+        String office = HEAD + "office a 1 1 1;";
+        String served = HEAD + "office a 4 1 9;person x;person y;join x a;join y a;pass 1;";
+        String[] starts = {"", office, office, office + "person x;", office, served, served + "claim x;"};
+        int[] due = {0, 0, 1, 1, 0, 2};
+        for (int i = 0; i < words.length; i++) {
+            String word = words[i];
+            if (i < due.length) {
+                Check.same("persons of the text with " + word, due[i], persons(starts[i] + word + rests[i]));
+            }
+            for (int at = 0; at < word.length(); at++) {
+                String before = word.substring(0, at);
+                String after = word.substring(at + 1);
+                error(1, starts[i], before + "q" + after + rests[i]);
+                error(1, starts[i], before + after + rests[i]);
+                error(1, starts[i], before + "q" + word.substring(at) + rests[i]);
+            }
+            error(1, starts[i], word + "q" + rests[i]);
+        }
+        error(1, "", "office a 1 1 1;person x;");
+        error(1, "", "office a 1 1 1;");
+        error(1, "", "person x;");
+        error(1, "", ";office a 1 1 1;");
+        error(1, HEAD, "person x;");
+        error(1, HEAD, "join x a;");
+    }
+
+    private static int persons(String text) {
+        WaitingBureau bureau = new WaitingBureau();
+        Check.put(bureau, text);
+        return bureau.load();
     }
 
     /** A text of 1000 bytes, with its last token or an error at its very end. */

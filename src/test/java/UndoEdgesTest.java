@@ -16,6 +16,7 @@ public final class UndoEdgesTest {
         undoOfWeeks();
         lastPerson();
         usedRows();
+        usedRowsOfRestored();
         slots();
         twoSlots();
         savedAgain();
@@ -288,6 +289,65 @@ public final class UndoEdgesTest {
         bureau.pass(3);
         Check.same("claimed tickets", 0, bureau.count(6));
         Check.same("whyNot(1, 0)", 1, bureau.whyNot(1, 0));
+    }
+
+    /** So it is with what was there when an earlier state is restored. */
+    private static void usedRowsOfRestored() {
+        Check.promise(48);
+        String text = "bureau 0 1 1 20 1 9;office a 4 3 16;" + Texts.persons(3);
+        String due = Snapshot.state(() -> {
+            WaitingBureau bureau = Check.loaded(text);
+            joinedAndClaimed(bureau);
+            return bureau;
+        });
+        Check.same("state after restore() of the state ahead of other changes", due, Snapshot.state(() -> {
+            WaitingBureau bureau = Check.loaded(text);
+            bureau.save(0);
+            Check.put(bureau, "old");
+            bureau.addPerson();
+            for (int person = 3; person >= 0; person--) {
+                bureau.join(person, 0);
+            }
+            bureau.pass(3);
+            for (int ticket = 0; ticket < 4; ticket++) {
+                bureau.claim(ticket);
+            }
+            bureau.witness(0, 1);
+            bureau.witness(2, 0);
+            bureau.give(1, 3, 1);
+            bureau.offer(3, 4);
+            bureau.restore(0);
+            joinedAndClaimed(bureau);
+            return bureau;
+        }));
+        WaitingBureau bureau = Check.loaded(text + "join a a;join b a;");
+        bureau.save(1);
+        bureau.join(2, 0);
+        bureau.pass(3);
+        bureau.claim(2);
+        bureau.set(1, 2);
+        bureau.witness(2, 0);
+        bureau.restore(1);
+        bureau.join(2, 0);
+        Check.same("state of the ticket after restore()", WaitingBureau.WAITING, bureau.ticket(2, 4));
+        Check.same("ENDED after restore()", WaitingBureau.NONE, bureau.ticket(2, 3));
+        Check.same("whether it is claimed after restore()", 0, bureau.ticket(2, 5));
+        Check.same("its witnesses after restore()", 0, bureau.ticket(2, 7));
+        Check.same("isWitness(2, 0) after restore()", false, bureau.isWitness(2, 0));
+        bureau.pass(3);
+        bureau.claim(2);
+        Check.same("witness(2, 0) after restore()", 3, bureau.witness(2, 0));
+    }
+
+    private static void joinedAndClaimed(WaitingBureau bureau) {
+        Check.put(bureau, "new");
+        bureau.addPerson();
+        bureau.join(3, 0);
+        bureau.join(1, 0);
+        bureau.pass(3);
+        bureau.join(2, 0);
+        bureau.claim(1);
+        bureau.witness(1, 3);
     }
 
     // ---- save and restore

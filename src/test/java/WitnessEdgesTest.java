@@ -26,6 +26,7 @@ public final class WitnessEdgesTest {
         neededWitnesses();
         changedNeed();
         cap();
+        capOfSeveralTickets();
         capInTheNewWeek();
         noHourTwice();
         order();
@@ -495,6 +496,29 @@ public final class WitnessEdgesTest {
             Check.same("tokens of the new week", Math.min(24 - cap, cap), bureau.person(3, 7));
             Check.same("tokens in all", Math.min(24, 2 * cap), bureau.person(3, 6));
         }
+    }
+
+    /** Three tickets of three hours each; CAP is that of the person. */
+    private static void capOfSeveralTickets() {
+        WaitingBureau bureau = Check.loaded("bureau 0 0 1 5 1 0;office a 1 3 9;person x;"
+                + "join x a;pass 3;join x a;pass 3;join x a;pass 3;");
+        int[] due = {3, 2, 0};
+        int sum = 0;
+        for (int ticket = 0; ticket < 3; ticket++) {
+            Check.promise(20);
+            Check.same("worth(" + ticket + ") with " + sum + " tokens of CAP 5", due[ticket], bureau.worth(ticket));
+            Check.promise(37);
+            Check.same("claim(" + ticket + ") with " + sum + " tokens of CAP 5", due[ticket], bureau.claim(ticket));
+            sum += due[ticket];
+            Check.promise(12);
+            Check.same("tokens of this week", sum, bureau.person(0, 7));
+        }
+        bureau.pass(11);
+        Check.same("tokens of the new week, of two tickets", 4, bureau.person(0, 7));
+        Check.promise(13);
+        Check.same("tokens of ticket 0", 3, bureau.ticket(0, 9));
+        Check.same("tokens of ticket 1", 3, bureau.ticket(1, 9));
+        Check.same("tokens of ticket 2", 3, bureau.ticket(2, 9));
     }
 
     /** What is given away counts for the person of the ticket; other persons have a CAP of their own. */
