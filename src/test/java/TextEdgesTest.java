@@ -12,6 +12,7 @@ public final class TextEdgesTest {
         newObject();
         append();
         bytesInTheirOrder();
+        bytesAheadOfOthers();
         truncate();
         load();
         loadIntoUsedRows();
@@ -88,6 +89,26 @@ public final class TextEdgesTest {
                 Check.same("position of byte " + odd, place, bureau.errorPosition());
                 Check.same("code of byte " + odd, 1, bureau.errorCode());
             }
+        }
+    }
+
+    /** A byte is the same whatever stands behind it, and also where the argument is negative. */
+    private static void bytesAheadOfOthers() {
+        Check.promise(2);
+        WaitingBureau bureau = Check.loaded(HEAD + "office b 1 1 1;office bb 1 1 1;office bbb 1 1 1;office bbbb 1 1 1;");
+        for (int length = 1; length <= 4; length++) {
+            int kept = -1 << 32 - 8 * length;
+            for (int behind : new int[] {0, -1, 0x80000000, 0x01010101, 0x7fffffff}) {
+                int word = 0x62626262 & kept | behind & ~kept;
+                bureau.append(word, behind, behind, behind, behind);
+                bureau.truncate(length);
+                Check.same("find() of the first " + length + " bytes of " + word, length - 1,
+                        Check.outcome(() -> bureau.find(true)));
+            }
+            int odd = 0x62626262 ^ 0x80 << 32 - 8 * length;
+            bureau.append(odd, 0, 0, 0, 0);
+            bureau.truncate(length);
+            Check.noElement("find() of the first " + length + " bytes of " + odd, () -> bureau.find(true));
         }
     }
 
@@ -603,6 +624,19 @@ public final class TextEdgesTest {
         for (int i = 0; i < contents.length; i++) {
             found(start, contents[i], true, offices[i]);
             found(start, contents[i], false, persons[i]);
+        }
+        WaitingBureau all = Check.loaded("bureau 0 0 1 1 1 0;" + Texts.offices(6, "1 1 1") + Texts.persons(16));
+        for (int round = 0; round < 2; round++) {
+            for (int number = 0; number < 17; number++) {
+                Check.put(all, Texts.name(number));
+                Check.same("find(true) of office " + number, number < 6 ? number : "throws.NoSuchElementException",
+                        Check.outcome(() -> all.find(true)));
+                Check.put(all, Texts.name(number));
+                Check.same("find(false) of person " + number, number < 16 ? number : "throws.NoSuchElementException",
+                        Check.outcome(() -> all.find(false)));
+            }
+            all.deposit(1 + round);
+            all.undo();
         }
         WaitingBureau full = Check.loaded(start);
         Check.put(full, "b" + " ".repeat(999));

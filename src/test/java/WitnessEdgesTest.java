@@ -9,6 +9,7 @@ public final class WitnessEdgesTest {
         ranges();
         firstReason();
         firstReasonInAnotherWeek();
+        otherNumbers();
         overlap();
         overlapInAnyState();
         overlapOfOneTicket();
@@ -154,6 +155,61 @@ public final class WitnessEdgesTest {
         bureau.witness(2, 1);
         bureau.witness(3, 1);
         reason(bureau, 7, 5, 1);
+    }
+
+    /** Tickets with other numbers than those of their persons, at an office that is not the first one: e joins first. */
+    private static void otherNumbers() {
+        WaitingBureau bureau = Check.loaded("bureau 0 1 2 20 1 0;office a 1 1 1;office b 4 6 9;" + Texts.persons(6)
+                + "join e b;pass 1;join d b;pass 1;join c b;pass 1;join b b;pass 1;join a b;pass 8;");
+        int[] waited = {6, 5, 4, 3, 8};
+        for (int ticket = 0; ticket < 5; ticket++) {
+            Check.promise(13);
+            Check.same("hours lost by ticket " + ticket, waited[ticket], bureau.ticket(ticket, 8));
+            Check.promise(20);
+            Check.same("worth(" + ticket + ")", waited[ticket], bureau.worth(ticket));
+            Check.promise(17);
+            for (int person = 0; person < 6; person++) {
+                int from = Math.max(ticket, 4 - person);
+                int due = person == 4 - ticket || person == 5 ? 0 : 6 - from;
+                Check.same("common(" + ticket + ", " + person + ")", due, bureau.common(ticket, person));
+            }
+        }
+        bureau.claim(0);
+        bureau.claim(1);
+        reason(bureau, 3, 0, 4);
+        reason(bureau, 3, 1, 3);
+        reason(bureau, 0, 0, 0);
+        Check.promise(38);
+        Check.same("witness(0, 1)", 6, bureau.witness(0, 1));
+        reason(bureau, 2, 0, 0);
+        reason(bureau, 2, 0, 4);
+        reason(bureau, 1, 4, 1);
+        Check.promise(20);
+        int[] due = {0, 5, 4, 3, 8};
+        for (int ticket = 0; ticket < 5; ticket++) {
+            Check.same("worth(" + ticket + ") when ticket 0 has its tokens", due[ticket], bureau.worth(ticket));
+        }
+        bureau.claim(4);
+        bureau.claim(3);
+        reason(bureau, 0, 4, 1);
+        reason(bureau, 0, 4, 2);
+        reason(bureau, 3, 4, 0);
+        reason(bureau, 5, 4, 5);
+        reason(bureau, 7, 3, 4);
+        reason(bureau, 0, 3, 3);
+        bureau.set(2, 3);
+        reason(bureau, 5, 4, 1);
+        Check.promise(38);
+        Check.same("witness(3, 2)", 3, bureau.witness(3, 2));
+        Check.promise(12);
+        int[] made = {0, 3, 0, 0, 6, 0};
+        int[] times = {0, 1, 1, 0, 0, 0};
+        for (int person = 0; person < 6; person++) {
+            Check.same("tokens that person " + person + " got made", made[person], bureau.person(person, 7));
+            Check.same("how often person " + person + " was a witness", times[person], bureau.person(person, 8));
+            Check.same("hours of person " + person + " without a token",
+                    person == 5 ? 0 : waited[4 - person] - made[person], bureau.person(person, 9));
+        }
     }
 
     // ---- OVERLAP
