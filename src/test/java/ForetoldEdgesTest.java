@@ -325,20 +325,34 @@ public final class ForetoldEdgesTest {
         return bureau;
     }
 
+    /** With a lower PRICE the next hour will pay for what is offered; foretelling that hour does not. */
+    private static WaitingBureau unsettled() {
+        WaitingBureau bureau = manifold();
+        bureau.set(4, 1);
+        return bureau;
+    }
+
     private static void foretellingChangesNothing() {
         Check.promise(26);
-        String due = Snapshot.of(ForetoldEdgesTest::manifold);
-        Check.same("everything after foretelling", due, Snapshot.of(() -> {
-            WaitingBureau bureau = manifold();
-            bureau.servedIn(0);
-            bureau.queueIn(0, 200);
-            bureau.tokensIn(200);
-            bureau.servedIf(0);
-            bureau.bestOffice();
-            bureau.longestIfMerged(0, 1);
-            bureau.longestIfMerged(1, 2);
-            return bureau;
-        }));
+        Check.same("everything after foretelling", Snapshot.of(ForetoldEdgesTest::manifold),
+                Snapshot.of(() -> foretold(manifold())));
+        Check.same("everything after foretelling what will be paid", Snapshot.of(ForetoldEdgesTest::unsettled),
+                Snapshot.of(() -> foretold(unsettled())));
+        WaitingBureau bureau = unsettled();
+        Check.same("offered tokens", 1, bureau.count(9));
+        bureau.pass(1);
+        Check.same("offered tokens after an hour", 0, bureau.count(9));
+    }
+
+    private static WaitingBureau foretold(WaitingBureau bureau) {
+        bureau.servedIn(0);
+        bureau.queueIn(0, 200);
+        bureau.tokensIn(200);
+        bureau.servedIf(0);
+        bureau.bestOffice();
+        bureau.longestIfMerged(0, 1);
+        bureau.longestIfMerged(1, 2);
+        return bureau;
     }
 
     private static void beyondTheLastTime() {

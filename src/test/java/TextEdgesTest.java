@@ -25,6 +25,7 @@ public final class TextEdgesTest {
         passNumbers();
         digits();
         words();
+        numbersAheadOfWords();
         names();
         knownNames();
         latestTickets();
@@ -440,6 +441,18 @@ public final class TextEdgesTest {
             text.append(good[i]);
         }
         accepted(text.toString());
+    }
+
+    /** A number ends where a letter stands; the word behind it is a token of its own. */
+    private static void numbersAheadOfWords() {
+        Check.promise(4);
+        error(1, "bureau 1", "q 1 1 1 1 1;office a 1 1 1;");
+        error(1, "bureau 1 1 1 1 1 99999", "x;office a 1 1 1;");
+        error(1, HEAD + "office a 1 1 1", "person x;");
+        error(1, START + "pass 1", "pass 1;");
+        error(2, "bureau ", "10q 1 1 1 1 1;office a 1 1 1;");
+        error(2, START + "pass ", "100x;");
+        error(1, "bureau ", "000001x 1 1 1 1 1;office a 1 1 1;");
     }
 
     private static void names() {
